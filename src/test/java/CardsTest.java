@@ -265,6 +265,13 @@ public final class CardsTest {
         CHECK.equal("still queued", Cardgate.QUEUED, x.state(1));
         x.move(first);
         CHECK.equal("behind the others now", "[1 2 0]", Snapshot.queue(x));
+        int third = Setup.cardNaming(x, 1, 1);
+        Setup.moveTo(x, third, 3);
+        x.moveBack(second);
+        CHECK.equal("named by one of two others there", "[1 0]", Snapshot.queue(x));
+        x.move(second);
+        CHECK.equal("the queue", "[1 0 2]", Snapshot.queue(x));
+        x.moveBack(third);
         x.merge(1);
         x.moveBack(first);
         CHECK.equal("one that is in stays in", Cardgate.IN, x.state(1));

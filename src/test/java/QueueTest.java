@@ -199,6 +199,11 @@ public final class QueueTest {
 
     /** One by one and as a row the same may pass, but it takes other hours. */
     private static void rowAndOneByOneDiffer() {
+        Cardgate fresh = Setup.queuing(1, 1);
+        CHECK.equal("one by one as the first call", 3, fresh.wouldPassOneByOne(2));
+        fresh.setBroken(0, true);
+        CHECK.equal("one by one again, told anew", 2, fresh.wouldPassOneByOne(2));
+
         Cardgate x = Setup.withChanges(1, 1, 1);
         x.need(1, 0);
         Setup.moveTo(x, Setup.cardNaming(x, 1, 0, 1, 2), 3);
