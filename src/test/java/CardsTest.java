@@ -1,366 +1,604 @@
-/** Promises 1 to 6: a new object, card, name, move, moveBack, setLimit. */
+/** Promises 1 to 6, sentence by sentence: a new object, card, name, move, moveBack, setLimit. */
 public final class CardsTest {
     private static final Check CHECK = new Check("CardsTest");
 
     public static void main(String[] args) {
         aNewObject();
-        cardIsNumbered();
-        cardRefuses();
-        nameCounts();
-        nameRefuses();
+        cardAdds();
+        cardRank();
+        cardReturns();
+        cardOutOfRange();
+        cardOfTooMany();
+        nameLets();
+        nameFlag();
+        nameReturns();
+        nameOfNone();
+        nameInTheWrongColumn();
         moveGoesOn();
-        moveIsStoppedByLimits();
-        moveIsStoppedInDoing();
-        moveIsStoppedInReview();
-        moveQueues();
-        moveGoesOnToDone();
+        moveReturns();
+        moveOfNone();
+        moveRefuses();
         moveBackGoesBack();
+        moveBackReturns();
+        moveBackOfNone();
         moveBackRefuses();
-        moveBackOpensChanges();
         setLimitPushesBack();
-        setLimitPushesThroughAllColumns();
-        setLimitOpensChanges();
-        setLimitRefuses();
+        setLimitColumn();
+        setLimitLimit();
+        setLimitReturns();
+        setLimitOfNone();
+        setLimitOutOfRange();
         CHECK.end();
     }
 
     private static void aNewObject() {
+        CHECK.promise(1, "No cards and changes.");
         Cardgate x = new Cardgate();
-        CHECK.equal("new: cards", 0, x.cards());
-        CHECK.equal("new: changes", 0, x.changes());
-        CHECK.equal("new: queued", 0, x.queued());
-        CHECK.equal("new: hours", 0, x.hours());
-        CHECK.equal("new: bestLength", Cardgate.NONE, x.bestLength());
+        CHECK.equal("cards", 0, x.cards());
+        CHECK.equal("changes", 0, x.changes());
+        CHECK.equal("queued", 0, x.queued());
+        CHECK.equal("hours", 0, x.hours());
+        CHECK.equal("bestLength", Cardgate.NONE, x.bestLength());
+        CHECK.outOfBounds("no card", x, () -> x.columnOf(0));
+        CHECK.outOfBounds("no change", x, () -> x.state(0));
+        CHECK.outOfBounds("no place", x, () -> x.queuedAt(0));
         for (int column = 0; column <= 4; column++) {
-            CHECK.equal("new: cardsIn " + column, 0, x.cardsIn(column));
-        }
-        for (int column = 1; column <= 3; column++) {
-            CHECK.equal("new: limit of " + column, 3, x.setLimit(column, 5));
+            int empty = column;
+            CHECK.equal("cardsIn", 0, x.cardsIn(empty));
+            CHECK.outOfBounds("cardAt", x, () -> x.cardAt(empty, 0));
         }
         x.card(1);
-        CHECK.equal("new: another has cards of its own", 0, new Cardgate().cards());
+        x.change(1);
+        x.setLimit(1, 9);
+        Cardgate another = new Cardgate();
+        CHECK.equal("another has cards of its own", 0, another.cards());
+        CHECK.equal("and changes", 0, another.changes());
+        CHECK.equal("and limits", 3, another.setLimit(1, 9));
     }
 
-    private static void cardIsNumbered() {
+    // ---- promise 2: card
+
+    private static void cardAdds() {
+        CHECK.promise(2, "Adds a card.");
+        Cardgate x = new Cardgate();
+        for (int count = 1; count <= 20; count++) {
+            x.card(5);
+            CHECK.equal("one more", count, x.cards());
+            CHECK.equal("it waits", 0, x.columnOf(count - 1));
+            CHECK.equal("it waits behind the others", count - 1, x.cardAt(0, count - 1));
+        }
+        CHECK.equal("it names none", 0, x.lacks(19));
+        CHECK.equal("it has not fallen", 0, x.falls(19));
+        CHECK.equal("it was not pushed back", 0, x.pushes(19));
+    }
+
+    private static void cardRank() {
+        CHECK.promise(2, "rank: 0 to 9");
+        Cardgate x = new Cardgate();
+        for (int rank = 0; rank <= 9; rank++) {
+            CHECK.equal("a rank", rank, x.card(rank));
+            CHECK.equal("the highest so far", rank, x.cardAt(0, 0));
+        }
+    }
+
+    private static void cardReturns() {
+        CHECK.promise(2, "Returns its number.");
         Cardgate x = new Cardgate();
         for (int number = 0; number < 20; number++) {
-            CHECK.equal("card number", number, x.card(number % 10));
+            CHECK.equal("number", number, x.card(number % 10));
         }
-        CHECK.equal("cards", 20, x.cards());
-        CHECK.equal("begins waiting", 0, x.columnOf(19));
-        CHECK.equal("waiting", "[9 19 8 18 7 17 6 16 5 15 4 14 3 13 2 12 1 11 0 10]",
+        CHECK.equal("those are the cards", "[9 19 8 18 7 17 6 16 5 15 4 14 3 13 2 12 1 11 0 10]",
             Snapshot.column(x, 0));
-        CHECK.equal("lacks none at first", 0, x.lacks(0));
     }
 
-    private static void cardRefuses() {
-        Cardgate x = new Cardgate();
-        CHECK.illegalArgument("card(-1)", x, () -> x.card(-1));
-        CHECK.illegalArgument("card(10)", x, () -> x.card(10));
-        CHECK.illegalArgument("card(MIN)", x, () -> x.card(Integer.MIN_VALUE));
-        CHECK.illegalArgument("card(MAX)", x, () -> x.card(Integer.MAX_VALUE));
-        for (int k = 0; k < 20; k++) {
-            x.card(9);
+    private static void cardOutOfRange() {
+        CHECK.promise(2, "Throws IllegalArgumentException if rank is out of range");
+        Cardgate x = Setup.withCards(0, 9);
+        for (int rank : new int[] {-1, 10, 11, 256, Integer.MIN_VALUE, Integer.MAX_VALUE}) {
+            CHECK.illegalArgument("card " + rank, x, () -> x.card(rank));
         }
-        CHECK.illegalState("the 21st card", x, () -> x.card(0));
-        CHECK.illegalArgument("the 21st card out of range", x, () -> x.card(10));
+        CHECK.equal("the number was not used up", 2, x.card(0));
     }
 
-    private static void nameCounts() {
+    private static void cardOfTooMany() {
+        CHECK.promise(2, "Throws IllegalStateException if there are 20");
+        Cardgate x = Setup.withCards(Setup.light(19));
+        CHECK.equal("there are 19", 19, x.card(0));
+        for (int rank = 0; rank <= 9; rank++) {
+            int extra = rank;
+            CHECK.illegalState("there are 20", x, () -> x.card(extra));
+        }
+    }
+
+    // ---- promise 3: name
+
+    private static void nameLets() {
+        CHECK.promise(3, "Lets a card name a change, or not any more.");
+        Cardgate x = Setup.withChanges(1, 1);
+        Setup.cardNaming(x, 5, 0);
+        x.card(5);
+        CHECK.equal("it names it", 1, x.namedBy(0));
+        CHECK.equal("not the other change", 0, x.namedBy(1));
+        x.name(1, 0, true);
+        CHECK.equal("two name it", 2, x.namedBy(0));
+        x.name(0, 0, false);
+        CHECK.equal("one not any more", 1, x.namedBy(0));
+        CHECK.equal("the first", 0, x.lacks(0));
+        CHECK.equal("the second still", 1, x.lacks(1));
+        x.name(1, 0, true);
+        CHECK.equal("naming it again is no more", 1, x.namedBy(0));
+
+        Cardgate y = Setup.queuing(1, 1, 1);
+        y.setBroken(1, true);
+        y.merge(2);
+        y.change(1);
+        Setup.cardIn(y, 3, 5, 2);
+        int card = y.card(5);
+        for (int change = 0; change < 4; change++) {
+            CHECK.equal("a change of whatever state", change + 1, y.name(card, change, true));
+        }
+        CHECK.equal("one is in", Cardgate.IN, y.state(0));
+        CHECK.equal("one is refused", Cardgate.REFUSED, y.state(1));
+        CHECK.equal("one is queued", Cardgate.QUEUED, y.state(2));
+        CHECK.equal("one is open", Cardgate.OPEN, y.state(3));
+    }
+
+    private static void nameFlag() {
+        CHECK.promise(3, "doesName: whether it names it from now on");
+        Cardgate x = Setup.withCards(5);
+        Setup.addChanges(x, Setup.light(30));
+        for (int change : new int[] {0, 15, 29}) {
+            x.name(0, change, false);
+            CHECK.equal("it does not, as before", 0, x.namedBy(change));
+            x.name(0, change, true);
+            CHECK.equal("it does", 1, x.namedBy(change));
+            x.name(0, change, true);
+            CHECK.equal("it does, as before", 1, x.namedBy(change));
+            x.name(0, change, false);
+            CHECK.equal("it does not any more", 0, x.namedBy(change));
+        }
+    }
+
+    private static void nameReturns() {
+        CHECK.promise(3, "Returns how many changes it names then.");
         Cardgate x = Setup.withCards(1, 1);
+        x.change(1);
+        CHECK.equal("none, not named anyway", 0, x.name(0, 0, false));
         for (int change = 0; change < 30; change++) {
-            x.change(1);
-            CHECK.equal("names so many", change + 1, x.name(0, change, true));
+            if (change > 0) {
+                x.change(1);
+            }
+            CHECK.equal("one more", change + 1, x.name(0, change, true));
         }
         CHECK.equal("named again", 30, x.name(0, 29, true));
-        CHECK.equal("named by the other too", 1, x.name(1, 29, true));
-        CHECK.equal("named by two", 2, x.namedBy(29));
-        CHECK.equal("not named any more", 29, x.name(0, 29, false));
-        CHECK.equal("not named again", 29, x.name(0, 29, false));
-        CHECK.equal("named by one", 1, x.namedBy(29));
-        x.move(0);
-        CHECK.equal("named from the column 1", 28, x.name(0, 0, false));
-        CHECK.equal("named from the column 1", 29, x.name(0, 0, true));
+        CHECK.equal("of this card alone", 1, x.name(1, 29, true));
+        CHECK.equal("one less", 29, x.name(0, 29, false));
+        CHECK.equal("not named anyway", 29, x.name(0, 29, false));
+        for (int change = 0; change < 29; change++) {
+            CHECK.equal("one less", 28 - change, x.name(0, change, false));
+        }
     }
 
-    private static void nameRefuses() {
+    private static void nameOfNone() {
+        CHECK.promise(3, "Throws IndexOutOfBoundsException if there is no such card or change");
+        Cardgate x = Setup.withChanges(1, 1);
+        Setup.cardNaming(x, 1, 0);
+        for (int number : Setup.beyond(1)) {
+            CHECK.outOfBounds("no card " + number, x, () -> x.name(number, 0, true));
+        }
+        for (int number : Setup.beyond(2)) {
+            CHECK.outOfBounds("no change " + number, x, () -> x.name(0, number, true));
+            CHECK.outOfBounds("no change " + number, x, () -> x.name(0, number, false));
+        }
+        Cardgate full = Setup.withChanges(Setup.light(30));
+        for (int k = 0; k < 20; k++) {
+            full.card(5);
+        }
+        for (int number : Setup.beyond(30)) {
+            CHECK.outOfBounds("no change " + number, full, () -> full.name(19, number, true));
+        }
+        for (int number : Setup.beyond(20)) {
+            CHECK.outOfBounds("no card " + number, full, () -> full.name(number, 29, true));
+        }
+        CHECK.equal("the last ones", 1, full.name(19, 29, true));
+    }
+
+    private static void nameInTheWrongColumn() {
+        CHECK.promise(3, "Throws IllegalStateException if it is neither in the column 0 nor in the "
+            + "column 1");
         Cardgate x = Setup.withChanges(1, 1);
         int card = Setup.cardNaming(x, 1, 0);
-        CHECK.outOfBounds("name(-1, 0)", x, () -> x.name(-1, 0, true));
-        CHECK.outOfBounds("name(1, 0)", x, () -> x.name(1, 0, true));
-        CHECK.outOfBounds("name(0, -1)", x, () -> x.name(card, -1, true));
-        CHECK.outOfBounds("name(0, 2)", x, () -> x.name(card, 2, false));
-        CHECK.outOfBounds("name(0, 32)", x, () -> x.name(card, 32, true));
-        Setup.moveTo(x, card, 2);
-        CHECK.illegalState("name in the column 2", x, () -> x.name(card, 1, true));
-        CHECK.illegalState("name the same in the column 2", x, () -> x.name(card, 0, true));
-        CHECK.outOfBounds("no change goes first", x, () -> x.name(card, 2, true));
+        CHECK.equal("in the column 0", 2, x.name(card, 1, true));
         x.move(card);
-        CHECK.illegalState("name in the column 3", x, () -> x.name(card, 0, false));
-        x.merge(1);
-        CHECK.equal("done", 4, x.columnOf(card));
-        CHECK.illegalState("name in the column 4", x, () -> x.name(card, 1, true));
+        CHECK.equal("in the column 1", 1, x.name(card, 1, false));
+        for (int column = 2; column <= 4; column++) {
+            if (column < 4) {
+                x.move(card);
+            } else {
+                x.merge(1);
+            }
+            CHECK.equal("it is there", column, x.columnOf(card));
+            CHECK.illegalState("another one", x, () -> x.name(card, 1, true));
+            CHECK.illegalState("the same", x, () -> x.name(card, 0, true));
+            CHECK.illegalState("not any more", x, () -> x.name(card, 0, false));
+            CHECK.illegalState("not named anyway", x, () -> x.name(card, 1, false));
+        }
+        x.takeOut(0);
+        CHECK.equal("in the column 1 again", 2, x.name(card, 1, true));
     }
+
+    // ---- promise 4: move
 
     private static void moveGoesOn() {
+        CHECK.promise(4, "Moves a card to the next column, from 0, 1 or 2.");
         Cardgate x = Setup.withChanges(1);
         int card = Setup.cardNaming(x, 1, 0);
-        CHECK.equal("move to 1", 1, x.move(card));
-        CHECK.equal("move to 2", 2, x.move(card));
-        CHECK.equal("move to 3", 3, x.move(card));
-        CHECK.illegalState("move from 3", x, () -> x.move(card));
-        x.merge(1);
-        CHECK.illegalState("move from 4", x, () -> x.move(card));
-        CHECK.outOfBounds("move(1)", x, () -> x.move(1));
-        CHECK.outOfBounds("move(-1)", x, () -> x.move(-1));
+        int other = Setup.cardNaming(x, 1, 0);
+        for (int column = 1; column <= 3; column++) {
+            x.move(card);
+            CHECK.equal("the next one", column, x.columnOf(card));
+            CHECK.equal("the other stays", 0, x.columnOf(other));
+        }
+        CHECK.equal("not pushed", 0, x.pushes(card));
+        CHECK.equal("not fallen", 0, x.falls(card));
     }
 
-    private static void moveIsStoppedByLimits() {
+    private static void moveReturns() {
+        CHECK.promise(4, "Returns the column where it is then.");
+        Cardgate x = Setup.queuing(1);
+        x.merge(1);
+        int done = Setup.cardNaming(x, 1, 0);
+        CHECK.equal("to 1", 1, x.move(done));
+        CHECK.equal("to 2", 2, x.move(done));
+        CHECK.equal("to 3, and on to 4 at once", 4, x.move(done));
+        x.change(1);
+        int merging = Setup.cardIn(x, 2, 1, 0, 1);
+        CHECK.equal("to 3", 3, x.move(merging));
+    }
+
+    private static void moveOfNone() {
+        CHECK.promise(4, "Throws IndexOutOfBoundsException if there is no such card");
+        Cardgate x = Setup.withCards(1, 1);
+        for (int card : Setup.beyond(2)) {
+            CHECK.outOfBounds("no card " + card, x, () -> x.move(card));
+        }
+        Cardgate none = new Cardgate();
+        CHECK.outOfBounds("none at all", none, () -> none.move(0));
+        Cardgate full = Setup.withCards(Setup.light(20));
+        CHECK.outOfBounds("there are 20", full, () -> full.move(20));
+        CHECK.equal("the last one", 1, full.move(19));
+    }
+
+    private static void moveRefuses() {
+        CHECK.promise(4, "Throws IllegalStateException if it is in the column 3 or 4; the next column "
+            + "has as many cards as its limit; it is in the column 1 and names no change; or it is "
+            + "in the column 2, and one of its changes is REFUSED, or needs one that is OPEN or "
+            + "REFUSED and that the card does not name");
+        moveFromTheLastColumns();
+        moveToAFullColumn();
+        moveToMergingIfFull();
+        moveNamingNone();
+        moveNamingRefused();
+        moveNeedingOpen();
+        moveNeedingRefused();
+        moveNeedingItsOwn();
+    }
+
+    private static void moveFromTheLastColumns() {
+        Cardgate x = Setup.queuing(1);
+        CHECK.illegalState("from 3", x, () -> x.move(0));
+        x.merge(1);
+        CHECK.illegalState("from 4", x, () -> x.move(0));
+    }
+
+    private static void moveToAFullColumn() {
         Cardgate x = Setup.withChanges(1);
         for (int column = 3; column >= 1; column--) {
             for (int k = 0; k < 3; k++) {
-                Setup.moveTo(x, Setup.cardNaming(x, 1, 0), column);
+                Setup.cardIn(x, column, 1, 0);
             }
         }
         int waiting = Setup.cardNaming(x, 9, 0);
+        for (int k = 0; k < 2; k++) {
+            Setup.cardNaming(x, 1, 0);
+        }
         CHECK.illegalState("to a full column 1", x, () -> x.move(waiting));
         CHECK.illegalState("to a full column 2", x, () -> x.move(6));
         CHECK.illegalState("to a full column 3", x, () -> x.move(3));
         x.setLimit(3, 4);
-        CHECK.equal("to 3 again", 3, x.move(3));
-        CHECK.equal("to 2 again", 2, x.move(6));
-        CHECK.equal("to 1 again", 1, x.move(waiting));
+        CHECK.equal("one below the limit of 3", 3, x.move(3));
+        CHECK.equal("one below the limit of 2", 2, x.move(6));
+        CHECK.equal("one below the limit of 1", 1, x.move(waiting));
         CHECK.illegalState("to 3, at the limit 4", x, () -> x.move(4));
+        for (int column = 1; column <= 3; column++) {
+            x.setLimit(column, 1);
+        }
+        CHECK.illegalState("at the lowest limit", x, () -> x.move(x.cardAt(2, 0)));
+        x.setLimit(3, 9);
+        for (int k = 2; k <= 9; k++) {
+            x.move(x.cardAt(2, 0));
+            x.move(x.cardAt(1, 0));
+            x.move(x.cardAt(0, 0));
+            CHECK.equal("below the highest limit", k, x.cardsIn(3));
+        }
+        CHECK.illegalState("at the highest limit", x, () -> x.move(x.cardAt(2, 0)));
     }
 
-    private static void moveIsStoppedInDoing() {
+    private static void moveToMergingIfFull() {
+        Cardgate x = Setup.withChanges(1, 1);
+        Setup.cardIn(x, 3, 5, 0);
+        x.merge(1);
+        x.setLimit(3, 1);
+        int first = Setup.cardIn(x, 2, 5, 0);
+        int second = Setup.cardIn(x, 2, 5, 0);
+        int third = Setup.cardIn(x, 2, 5, 1);
+        x.move(third);
+        CHECK.illegalState("the column 3 is on the way to 4", x, () -> x.move(first));
+        x.moveBack(third);
+        CHECK.equal("it has room", 4, x.move(first));
+        CHECK.equal("and has it still", 4, x.move(second));
+    }
+
+    private static void moveNamingNone() {
         Cardgate x = Setup.withChanges(1);
         x.card(1);
-        CHECK.equal("names nothing, to 1", 1, x.move(0));
-        CHECK.illegalState("names nothing, to 2", x, () -> x.move(0));
+        CHECK.equal("names none, to 1", 1, x.move(0));
+        CHECK.illegalState("names none, to 2", x, () -> x.move(0));
         x.name(0, 0, true);
         x.name(0, 0, false);
-        CHECK.illegalState("names nothing any more", x, () -> x.move(0));
+        CHECK.illegalState("names none any more", x, () -> x.move(0));
         x.name(0, 0, true);
         CHECK.equal("names one", 2, x.move(0));
     }
 
-    private static void moveIsStoppedInReview() {
-        Cardgate x = Setup.withChanges(1, 1, 1);
-        x.need(1, 0);
-        int lower = Setup.cardNaming(x, 1, 0);
-        int needing = Setup.cardNaming(x, 1, 1, 2);
-        Setup.moveTo(x, needing, 2);
-        CHECK.illegalState("needs an open one", x, () -> x.move(needing));
-        Setup.moveTo(x, lower, 3);
-        CHECK.equal("needs a queued one", 3, x.move(needing));
+    private static void moveNamingRefused() {
+        Cardgate x = Setup.withChanges(1, 1);
+        int card = Setup.cardIn(x, 3, 5, 0, 1);
+        x.setBroken(1, true);
+        CHECK.equal("tries", 3, x.merge(2));
+        CHECK.equal("to 2 with a refused one", 2, x.move(card));
+        CHECK.illegalState("one of its changes is refused", x, () -> x.move(card));
+        x.mend(1);
+        x.setBroken(1, true);
+        CHECK.equal("broken is not refused", 3, x.move(card));
+    }
+
+    private static void moveNeedingOpen() {
+        Cardgate x = Setup.withChanges(1, 1, 1, 1);
+        x.need(2, 0);
+        x.need(2, 1);
+        int second = Setup.cardIn(x, 2, 1, 1);
+        int needing = Setup.cardIn(x, 2, 1, 2, 3);
+        int first = Setup.cardIn(x, 2, 1, 0);
+        CHECK.illegalState("both are open", x, () -> x.move(needing));
+        x.move(first);
+        CHECK.illegalState("one is queued, one is open", x, () -> x.move(needing));
+        x.move(second);
+        CHECK.equal("both are queued", 3, x.move(needing));
         x.moveBack(needing);
-        x.setBroken(0, true);
-        x.merge(1);
-        CHECK.equal("refused", Cardgate.REFUSED, x.state(0));
-        CHECK.illegalState("needs a refused one", x, () -> x.move(needing));
-        x.mend(0);
-        x.move(lower);
-        x.move(lower);
-        x.merge(1);
-        CHECK.equal("in", Cardgate.IN, x.state(0));
-        CHECK.equal("needs one that is in", 3, x.move(needing));
+        x.merge(2);
+        CHECK.equal("both are in", 3, x.move(needing));
+        x.moveBack(needing);
+        x.takeOut(1);
+        CHECK.illegalState("one is taken out", x, () -> x.move(needing));
 
         Cardgate y = Setup.withChanges(1, 1, 1);
         y.need(1, 0);
         y.need(2, 1);
-        int both = Setup.cardNaming(y, 1, 0, 1);
-        int last = Setup.cardNaming(y, 1, 1, 2);
-        Setup.moveTo(y, last, 2);
-        CHECK.illegalState("needs of a needed one", y, () -> y.move(last));
-        Setup.moveTo(y, both, 3);
-        CHECK.equal("needs one that it names itself", 3, y.columnOf(both));
-        y.setBroken(0, true);
-        y.merge(2);
-        CHECK.illegalState("one of its own is refused", y, () -> y.move(last));
-        CHECK.equal("to 2 with a refused one", 2, y.move(both));
-        CHECK.illegalState("names a refused one", y, () -> y.move(both));
+        int lowest = Setup.cardIn(y, 3, 1, 0);
+        Setup.cardIn(y, 3, 1, 1);
+        y.moveBack(lowest);
+        int highest = Setup.cardIn(y, 2, 1, 2);
+        CHECK.equal("the queue", "[1]", Snapshot.queue(y));
+        CHECK.equal("what the needed one needs may be open", 3, y.move(highest));
     }
 
-    private static void moveQueues() {
-        Cardgate x = Setup.withChanges(1, 1, 1, 1, 1);
-        int first = Setup.cardNaming(x, 1, 3, 1);
-        int second = Setup.cardNaming(x, 1, 4, 3, 0);
-        Setup.moveTo(x, first, 2);
-        CHECK.equal("nothing queued in 2", "[]", Snapshot.queue(x));
-        x.move(first);
-        CHECK.equal("by rising numbers", "[1 3]", Snapshot.queue(x));
-        Setup.moveTo(x, second, 3);
-        CHECK.equal("behind, the queued one stays", "[1 3 0 4]", Snapshot.queue(x));
-        CHECK.equal("named by none", Cardgate.OPEN, x.state(2));
+    private static void moveNeedingRefused() {
+        Cardgate x = Setup.withChanges(1, 1);
+        x.need(1, 0);
+        int first = Setup.cardIn(x, 3, 1, 0);
+        int needing = Setup.cardIn(x, 2, 1, 1);
+        x.setBroken(0, true);
+        x.merge(1);
+        CHECK.illegalState("needs a refused one", x, () -> x.move(needing));
+        x.mend(0);
+        CHECK.illegalState("needs a mended one, which is open", x, () -> x.move(needing));
+        Setup.moveTo(x, first, 3);
+        CHECK.equal("needs a queued one", 3, x.move(needing));
     }
 
-    private static void moveGoesOnToDone() {
-        Cardgate x = Setup.queuing(1, 1);
-        x.merge(2);
-        int all = Setup.cardNaming(x, 1, 0, 1);
-        Setup.moveTo(x, all, 2);
-        CHECK.equal("all are in", 4, x.move(all));
-        CHECK.equal("done", "[0 1]", Snapshot.column(x, 4));
-        x.change(1);
-        int some = Setup.cardNaming(x, 1, 0, 2);
-        Setup.moveTo(x, some, 2);
-        CHECK.equal("not all are in", 3, x.move(some));
-        int more = Setup.cardNaming(x, 1, 0, 1);
-        Setup.moveTo(x, more, 2);
-        x.setLimit(3, 1);
-        CHECK.illegalState("the column 3 is on the way", x, () -> x.move(more));
+    private static void moveNeedingItsOwn() {
+        Cardgate x = Setup.withChanges(1, 1, 1);
+        x.need(1, 0);
+        x.need(2, 1);
+        int some = Setup.cardIn(x, 2, 1, 1, 2);
+        int all = Setup.cardIn(x, 2, 1, 0, 1, 2);
+        CHECK.illegalState("it names one of both, not the other", x, () -> x.move(some));
+        CHECK.equal("it names both", 3, x.move(all));
+        x.moveBack(all);
+        x.moveBack(all);
+        x.name(all, 0, false);
+        x.name(all, 1, false);
+        x.move(all);
+        CHECK.illegalState("another card alone names it", x, () -> x.move(all));
     }
+
+    // ---- promise 5: moveBack
 
     private static void moveBackGoesBack() {
+        CHECK.promise(5, "Moves a card to the column ahead of its own, from 1, 2 or 3.");
+        Cardgate x = Setup.queuing(1);
+        int other = Setup.cardIn(x, 3, 5, 0);
+        for (int column = 2; column >= 0; column--) {
+            x.moveBack(0);
+            CHECK.equal("the one ahead", column, x.columnOf(0));
+            CHECK.equal("the other stays", 3, x.columnOf(other));
+        }
+        CHECK.equal("not pushed", 0, x.pushes(0));
+        CHECK.equal("not fallen", 0, x.falls(0));
+    }
+
+    private static void moveBackReturns() {
+        CHECK.promise(5, "Returns the column where it is then.");
         Cardgate x = Setup.queuing(1);
         CHECK.equal("from 3", 2, x.moveBack(0));
         CHECK.equal("from 2", 1, x.moveBack(0));
         CHECK.equal("from 1", 0, x.moveBack(0));
-        CHECK.equal("not pushed", 0, x.pushes(0));
-        CHECK.equal("not fallen", 0, x.falls(0));
-        x.card(5);
-        x.move(0);
-        x.moveBack(0);
-        CHECK.equal("the latest there", "[1 0]", Snapshot.column(x, 0));
+    }
+
+    private static void moveBackOfNone() {
+        CHECK.promise(5, "Throws IndexOutOfBoundsException if there is no such card");
+        Cardgate x = Setup.queuing(1);
+        for (int card : Setup.beyond(1)) {
+            CHECK.outOfBounds("no card " + card, x, () -> x.moveBack(card));
+        }
+        Cardgate full = Setup.withCards(Setup.light(20));
+        CHECK.outOfBounds("there are 20", full, () -> full.moveBack(20));
     }
 
     private static void moveBackRefuses() {
+        CHECK.promise(5, "Throws IllegalStateException if it is in the column 0 or 4, or the column "
+            + "ahead has a limit and as many cards as that");
         Cardgate x = Setup.withChanges(1);
         int card = Setup.cardNaming(x, 1, 0);
         CHECK.illegalState("from 0", x, () -> x.moveBack(card));
-        CHECK.outOfBounds("moveBack(-1)", x, () -> x.moveBack(-1));
-        CHECK.outOfBounds("moveBack(1)", x, () -> x.moveBack(1));
         Setup.moveTo(x, card, 3);
         for (int k = 0; k < 3; k++) {
-            Setup.moveTo(x, Setup.cardNaming(x, 1, 0), 2);
+            Setup.cardIn(x, 2, 1, 0);
         }
         CHECK.illegalState("to a full column 2", x, () -> x.moveBack(card));
         for (int k = 0; k < 3; k++) {
-            Setup.moveTo(x, Setup.cardNaming(x, 1, 0), 1);
+            Setup.cardIn(x, 1, 1, 0);
         }
         CHECK.illegalState("to a full column 1", x, () -> x.moveBack(1));
-        for (int k = 0; k < 9; k++) {
+        for (int k = 0; k < 13; k++) {
             x.card(9);
         }
         CHECK.equal("the column 0 has no limit", 0, x.moveBack(4));
-        CHECK.equal("to 1 again", 1, x.moveBack(1));
-        CHECK.equal("to 2 again", 2, x.moveBack(card));
+        CHECK.equal("1 is one below its limit", 1, x.moveBack(1));
+        CHECK.illegalState("1 is at its limit again", x, () -> x.moveBack(2));
+        CHECK.equal("2 is one below its limit", 2, x.moveBack(card));
+        x.move(card);
+        x.setLimit(2, 9);
+        CHECK.equal("the limit is higher", 2, x.moveBack(card));
         x.move(card);
         x.merge(1);
         CHECK.equal("done", 4, x.columnOf(card));
-        x.setLimit(3, 9);
         CHECK.illegalState("from 4", x, () -> x.moveBack(card));
     }
 
-    private static void moveBackOpensChanges() {
-        Cardgate x = Setup.withChanges(1, 1, 1);
-        int first = Setup.cardNaming(x, 1, 0, 1);
-        int second = Setup.cardNaming(x, 1, 1, 2);
-        Setup.moveTo(x, first, 3);
-        Setup.moveTo(x, second, 3);
-        x.moveBack(first);
-        CHECK.equal("only those that no other there names", "[1 2]", Snapshot.queue(x));
-        CHECK.equal("open again", Cardgate.OPEN, x.state(0));
-        CHECK.equal("still queued", Cardgate.QUEUED, x.state(1));
-        x.move(first);
-        CHECK.equal("behind the others now", "[1 2 0]", Snapshot.queue(x));
-        int third = Setup.cardNaming(x, 1, 1);
-        Setup.moveTo(x, third, 3);
-        x.moveBack(second);
-        CHECK.equal("named by one of two others there", "[1 0]", Snapshot.queue(x));
-        x.move(second);
-        CHECK.equal("the queue", "[1 0 2]", Snapshot.queue(x));
-        x.moveBack(third);
-        x.merge(1);
-        x.moveBack(first);
-        CHECK.equal("one that is in stays in", Cardgate.IN, x.state(1));
-        CHECK.equal("the queue", "[2]", Snapshot.queue(x));
-    }
+    // ---- promise 6: setLimit
 
     private static void setLimitPushesBack() {
+        CHECK.promise(6, "Sets the limit of a column; as long as there are more cards in it, it is "
+            + "pushed back there.");
         Cardgate x = Setup.withCards(4, 2, 7, 2, 2);
-        CHECK.equal("before", 3, x.setLimit(1, 9));
+        x.setLimit(1, 9);
         for (int card : new int[] {3, 0, 4, 2, 1}) {
             x.move(card);
         }
         CHECK.equal("in order", "[2 0 3 4 1]", Snapshot.column(x, 1));
-        CHECK.equal("before", 9, x.setLimit(1, 5));
+        x.setLimit(1, 6);
+        CHECK.equal("one below the limit none goes", 5, x.cardsIn(1));
+        x.setLimit(1, 5);
         CHECK.equal("at the limit none goes", 5, x.cardsIn(1));
-        CHECK.equal("before", 5, x.setLimit(1, 2));
+        x.setLimit(1, 2);
         CHECK.equal("the highest ranks stay", "[2 0]", Snapshot.column(x, 1));
         CHECK.equal("the latest went first", "[1 4 3]", Snapshot.column(x, 0));
-        CHECK.equal("pushed", 1, x.pushes(1));
-        CHECK.equal("pushed", 1, x.pushes(3));
-        CHECK.equal("not pushed", 0, x.pushes(0));
-        CHECK.equal("not fallen", 0, x.falls(1));
-        CHECK.equal("higher again", 2, x.setLimit(1, 9));
+        for (int card = 0; card < 5; card++) {
+            CHECK.equal("pushes", card == 0 || card == 2 ? 0 : 1, x.pushes(card));
+            CHECK.equal("falls", 0, x.falls(card));
+        }
+        x.setLimit(1, 9);
         CHECK.equal("none comes back", 2, x.cardsIn(1));
+        setLimitPushesFromEach();
     }
 
-    private static void setLimitPushesThroughAllColumns() {
-        Cardgate x = Setup.withChanges(1);
-        for (int column = 3; column >= 1; column--) {
-            for (int k = 0; k < 3; k++) {
-                Setup.moveTo(x, Setup.cardNaming(x, 3 * column - k, 0), column);
+    private static void setLimitPushesFromEach() {
+        for (int column = 1; column <= 3; column++) {
+            Cardgate x = Setup.withChanges(1);
+            for (int each = 1; each <= 3; each++) {
+                x.setLimit(each, 9);
+            }
+            for (int k = 0; k < 9; k++) {
+                Setup.cardIn(x, column, 5, 0);
+            }
+            for (int each = 1; each <= 3; each++) {
+                if (each != column) {
+                    x.setLimit(each, 1);
+                    CHECK.equal("of this column alone", 9, x.cardsIn(column));
+                }
+            }
+            x.setLimit(column, 1);
+            CHECK.equal("from 9 to 1", "[0]", Snapshot.column(x, column));
+            for (int ahead = column - 1; ahead >= 1; ahead--) {
+                CHECK.equal("the columns ahead keep to their limits", 1, x.cardsIn(ahead));
+            }
+            CHECK.equal("the others wait", 9 - column, x.cardsIn(0));
+            for (int card = 1; card < 9; card++) {
+                CHECK.equal("once for each column", column - x.columnOf(card), x.pushes(card));
             }
         }
-        // Ranks: column 3 has 9 8 7, column 2 has 6 5 4, column 1 has 3 2 1.
-        x.setLimit(3, 2);
-        CHECK.equal("3", "[0 1]", Snapshot.column(x, 3));
-        CHECK.equal("2", "[2 3 4]", Snapshot.column(x, 2));
-        CHECK.equal("1", "[5 6 7]", Snapshot.column(x, 1));
-        CHECK.equal("0", "[8]", Snapshot.column(x, 0));
-        CHECK.equal("pushed once", 1, x.pushes(2));
-        CHECK.equal("pushed once", 1, x.pushes(8));
-        x.setLimit(2, 1);
-        CHECK.equal("2", "[2]", Snapshot.column(x, 2));
-        CHECK.equal("1", "[3 4 5]", Snapshot.column(x, 1));
-        CHECK.equal("0", "[6 7 8]", Snapshot.column(x, 0));
-
-        // A column with room takes the pushed card, and the push ends there.
-        Cardgate y = Setup.withChanges(1);
-        for (int column : new int[] {3, 3, 2, 1, 1, 1}) {
-            Setup.moveTo(y, Setup.cardNaming(y, 1, 0), column);
-        }
-        y.setLimit(3, 1);
-        CHECK.equal("2", "[2 1]", Snapshot.column(y, 2));
-        CHECK.equal("1", "[3 4 5]", Snapshot.column(y, 1));
-
-        // The card that comes is the latest one, and so goes on itself at the same rank.
-        Cardgate z = Setup.withChanges(1);
-        for (int column : new int[] {3, 3, 2, 2, 2}) {
-            Setup.moveTo(z, Setup.cardNaming(z, 1, 0), column);
-        }
-        z.setLimit(3, 1);
-        CHECK.equal("2", "[2 3 4]", Snapshot.column(z, 2));
-        CHECK.equal("1", "[1]", Snapshot.column(z, 1));
-        CHECK.equal("once for each column", 2, z.pushes(1));
     }
 
-    private static void setLimitOpensChanges() {
-        Cardgate x = Setup.withChanges(1, 1, 1);
-        Setup.moveTo(x, Setup.cardNaming(x, 1, 0, 1), 3);
-        Setup.moveTo(x, Setup.cardNaming(x, 2, 1, 2), 3);
-        x.setLimit(3, 1);
-        CHECK.equal("pushed to 2", 2, x.columnOf(0));
-        CHECK.equal("its own is open", "[1 2]", Snapshot.queue(x));
+    private static void setLimitColumn() {
+        CHECK.promise(6, "column: 1 to 3");
+        Cardgate x = new Cardgate();
+        for (int column = 1; column <= 3; column++) {
+            CHECK.equal("each has its own", 3, x.setLimit(column, 3 + column));
+        }
+        for (int column = 1; column <= 3; column++) {
+            CHECK.equal("each has its own", 3 + column, x.setLimit(column, 1));
+        }
     }
 
-    private static void setLimitRefuses() {
+    private static void setLimitLimit() {
+        CHECK.promise(6, "limit: 1 to 9");
+        for (int limit = 1; limit <= 9; limit++) {
+            Cardgate x = Setup.withCards(Setup.light(10));
+            x.setLimit(1, limit);
+            for (int card = 0; card < limit; card++) {
+                x.move(card);
+            }
+            CHECK.equal("so many may be there", limit, x.cardsIn(1));
+            int next = limit;
+            CHECK.illegalState("and no more", x, () -> x.move(next));
+            CHECK.equal("it is the limit", limit, x.setLimit(1, 1));
+        }
+    }
+
+    private static void setLimitReturns() {
+        CHECK.promise(6, "Returns the limit before.");
+        for (int column = 1; column <= 3; column++) {
+            Cardgate x = new Cardgate();
+            int before = 3;
+            for (int limit : new int[] {3, 9, 9, 1, 1, 5}) {
+                CHECK.equal("before", before, x.setLimit(column, limit));
+                before = limit;
+            }
+        }
+    }
+
+    private static void setLimitOfNone() {
+        CHECK.promise(6, "Throws IndexOutOfBoundsException if column is not 1 to 3");
+        Cardgate x = Setup.withCards(1, 2, 3);
+        for (int column : new int[] {0, 4, -1, 5, 33, Integer.MIN_VALUE, Integer.MAX_VALUE}) {
+            CHECK.outOfBounds("column " + column, x, () -> x.setLimit(column, 1));
+        }
+    }
+
+    private static void setLimitOutOfRange() {
+        CHECK.promise(6, "Throws IllegalArgumentException if limit is out of range");
         Cardgate x = Setup.withCards(1, 2, 3);
         for (int card = 0; card < 3; card++) {
             x.move(card);
         }
-        CHECK.outOfBounds("the column 0", x, () -> x.setLimit(0, 3));
-        CHECK.outOfBounds("the column 4", x, () -> x.setLimit(4, 3));
-        CHECK.outOfBounds("the column -1", x, () -> x.setLimit(-1, 0));
-        CHECK.outOfBounds("the column goes first", x, () -> x.setLimit(5, 10));
-        CHECK.illegalArgument("the limit 0", x, () -> x.setLimit(1, 0));
-        CHECK.illegalArgument("the limit 10", x, () -> x.setLimit(1, 10));
-        CHECK.illegalArgument("the limit -1", x, () -> x.setLimit(3, -1));
-        CHECK.equal("the limit stayed", 3, x.setLimit(1, 1));
-        CHECK.equal("the lowest limit", 1, x.setLimit(1, 9));
-        CHECK.equal("the highest limit", 9, x.setLimit(1, 9));
+        for (int column = 1; column <= 3; column++) {
+            int each = column;
+            for (int limit : new int[] {0, 10, -1, 11, Integer.MIN_VALUE, Integer.MAX_VALUE}) {
+                CHECK.illegalArgument("limit " + limit, x, () -> x.setLimit(each, limit));
+            }
+            CHECK.equal("it stayed", 3, x.setLimit(column, 3));
+        }
     }
 }

@@ -64,7 +64,9 @@ public final class FaceTest {
         Constructor<?>[] constructors = Cardgate.class.getDeclaredConstructors();
         check.equal("constructors", 1, constructors.length);
         check.equal("constructor", "public Cardgate()", constructors[0].toString());
+        check.terms("NONE = -1: There is none.");
         check.equal("NONE", -1, Cardgate.NONE);
+        check.terms("OPEN = 0, QUEUED = 1, IN = 2, REFUSED = 3: States of changes.");
         check.equal("OPEN", 0, Cardgate.OPEN);
         check.equal("QUEUED", 1, Cardgate.QUEUED);
         check.equal("IN", 2, Cardgate.IN);
