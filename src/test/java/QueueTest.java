@@ -212,61 +212,22 @@ public final class QueueTest {
 
     private static void wouldPassLength() {
         CHECK.promise(16, "length: 1 to 8");
-        for (int length = 1; length <= 8; length++) {
-            int due = (1 << length) - 1;
-            CHECK.equal("of more", due, Setup.queuing(Setup.light(30)).wouldPass(length));
-            CHECK.equal("of as many", due, Setup.queuing(Setup.light(length)).wouldPass(length));
-        }
+        eachLengthPasses(false);
     }
 
     private static void wouldPassReturns() {
         CHECK.promise(16, "Returns 2 to the power of k for each place k of the queue whose change would.");
-        Cardgate x = Setup.queuing(Setup.light(16));
-        CHECK.equal("all", 255, x.wouldPass(8));
-        for (int change = 0; change < 16; change++) {
-            x.setBroken(change, true);
-        }
-        CHECK.equal("none", 0, x.wouldPass(8));
-        for (int place = 0; place < 8; place++) {
-            x.setBroken(place, false);
-            CHECK.equal("that place alone", 1 << place, x.wouldPass(8));
-            x.setBroken(place, true);
-        }
-        Cardgate y = Setup.queuing(Setup.light(16));
-        y.merge(8);
-        y.setBroken(8, true);
-        CHECK.equal("places, not numbers", 254, y.wouldPass(8));
-        CHECK.equal("the last one alone", 128, lastAlone().wouldPass(8));
-    }
-
-    /** Eight are queued; of these the last one alone is not broken. */
-    private static Cardgate lastAlone() {
-        Cardgate x = Setup.queuing(Setup.light(8));
-        for (int change = 0; change < 7; change++) {
-            x.setBroken(change, true);
-        }
-        return x;
+        eachPlacePasses(false);
     }
 
     private static void wouldPassOutOfRange() {
         CHECK.promise(16, "Throws IllegalArgumentException if length is out of range");
-        Cardgate x = Setup.queuing(Setup.light(10));
-        for (int length : OUT_OF_RANGE) {
-            CHECK.illegalArgument("of 10: " + length, x, () -> x.wouldPass(length));
-        }
+        noOtherLengthPasses(false);
     }
 
     private static void wouldPassOfTooFew() {
         CHECK.promise(16, "Throws IllegalStateException if so many are not queued");
-        Cardgate none = new Cardgate();
-        CHECK.illegalState("1 of none", none, () -> none.wouldPass(1));
-        for (int count = 1; count < 8; count++) {
-            Cardgate x = Setup.queuing(Setup.light(count));
-            int next = count + 1;
-            CHECK.equal("as many", (1 << count) - 1, x.wouldPass(count));
-            CHECK.illegalState("one more than " + count, x, () -> x.wouldPass(next));
-            CHECK.illegalState("8 of " + count, x, () -> x.wouldPass(8));
-        }
+        noMorePassThanAreQueued(false);
     }
 
     // ---- promise 17: wouldPassOneByOne
@@ -294,51 +255,78 @@ public final class QueueTest {
 
     private static void oneByOneLength() {
         CHECK.promise(17, "length: 1 to 8");
-        for (int length = 1; length <= 8; length++) {
-            int due = (1 << length) - 1;
-            CHECK.equal("of more", due, Setup.queuing(Setup.light(30)).wouldPassOneByOne(length));
-            CHECK.equal("of as many", due,
-                Setup.queuing(Setup.light(length)).wouldPassOneByOne(length));
-        }
+        eachLengthPasses(true);
     }
 
     private static void oneByOneReturns() {
         CHECK.promise(17, "Returns 2 to the power of k for each place k of the queue whose change would.");
+        eachPlacePasses(true);
+    }
+
+    private static void oneByOneOutOfRange() {
+        CHECK.promise(17, "Throws IllegalArgumentException if length is out of range");
+        noOtherLengthPasses(true);
+    }
+
+    private static void oneByOneOfTooFew() {
+        CHECK.promise(17, "Throws IllegalStateException if so many are not queued");
+        noMorePassThanAreQueued(true);
+    }
+
+    // ---- what is asked of both
+
+    private static int passed(Cardgate x, int length, boolean isOneByOne) {
+        return isOneByOne ? x.wouldPassOneByOne(length) : x.wouldPass(length);
+    }
+
+    private static void eachLengthPasses(boolean isOneByOne) {
+        for (int length = 1; length <= 8; length++) {
+            int due = (1 << length) - 1;
+            CHECK.equal("of more", due, passed(Setup.queuing(Setup.light(30)), length, isOneByOne));
+            CHECK.equal("of as many", due,
+                passed(Setup.queuing(Setup.light(length)), length, isOneByOne));
+        }
+    }
+
+    private static void eachPlacePasses(boolean isOneByOne) {
         Cardgate x = Setup.queuing(Setup.light(16));
+        CHECK.equal("all", 255, passed(x, 8, isOneByOne));
         for (int change = 0; change < 16; change++) {
             x.setBroken(change, true);
         }
-        CHECK.equal("none", 0, x.wouldPassOneByOne(8));
+        CHECK.equal("none", 0, passed(x, 8, isOneByOne));
         for (int place = 0; place < 8; place++) {
             x.setBroken(place, false);
-            CHECK.equal("that place alone", 1 << place, x.wouldPassOneByOne(8));
+            CHECK.equal("that place alone", 1 << place, passed(x, 8, isOneByOne));
             x.setBroken(place, true);
         }
         Cardgate y = Setup.queuing(Setup.light(16));
         y.merge(8);
         y.setBroken(8, true);
-        CHECK.equal("places, not numbers", 254, y.wouldPassOneByOne(8));
-        CHECK.equal("the last one alone", 128, lastAlone().wouldPassOneByOne(8));
+        CHECK.equal("places, not numbers", 254, passed(y, 8, isOneByOne));
+        Cardgate z = Setup.queuing(Setup.light(8));
+        for (int change = 0; change < 7; change++) {
+            z.setBroken(change, true);
+        }
+        CHECK.equal("the last one of all", 128, passed(z, 8, isOneByOne));
     }
 
-    private static void oneByOneOutOfRange() {
-        CHECK.promise(17, "Throws IllegalArgumentException if length is out of range");
+    private static void noOtherLengthPasses(boolean isOneByOne) {
         Cardgate x = Setup.queuing(Setup.light(10));
         for (int length : OUT_OF_RANGE) {
-            CHECK.illegalArgument("of 10: " + length, x, () -> x.wouldPassOneByOne(length));
+            CHECK.illegalArgument("of 10: " + length, x, () -> passed(x, length, isOneByOne));
         }
     }
 
-    private static void oneByOneOfTooFew() {
-        CHECK.promise(17, "Throws IllegalStateException if so many are not queued");
+    private static void noMorePassThanAreQueued(boolean isOneByOne) {
         Cardgate none = new Cardgate();
-        CHECK.illegalState("1 of none", none, () -> none.wouldPassOneByOne(1));
+        CHECK.illegalState("1 of none", none, () -> passed(none, 1, isOneByOne));
         for (int count = 1; count < 8; count++) {
             Cardgate x = Setup.queuing(Setup.light(count));
             int next = count + 1;
-            CHECK.equal("as many", (1 << count) - 1, x.wouldPassOneByOne(count));
-            CHECK.illegalState("one more than " + count, x, () -> x.wouldPassOneByOne(next));
-            CHECK.illegalState("8 of " + count, x, () -> x.wouldPassOneByOne(8));
+            CHECK.equal("as many", (1 << count) - 1, passed(x, count, isOneByOne));
+            CHECK.illegalState("one more than " + count, x, () -> passed(x, next, isOneByOne));
+            CHECK.illegalState("8 of " + count, x, () -> passed(x, 8, isOneByOne));
         }
     }
 

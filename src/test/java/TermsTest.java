@@ -442,8 +442,7 @@ public final class TermsTest {
         leavingByMovingBack();
         leavingSeveral();
         leavingByPushing();
-        leavingByRefusal();
-        leavingByTakingOut();
+        leavingByFalling();
         leavingToDone();
     }
 
@@ -501,32 +500,23 @@ public final class TermsTest {
         CHECK.equal("leaving the column 2 opens none", "[0]", Snapshot.queue(x));
     }
 
-    private static void leavingByRefusal() {
-        Cardgate x = Setup.withChanges(1, 1, 1, 1, 1);
-        Setup.cardIn(x, 3, 5, 0, 1, 2, 4);
-        Setup.cardIn(x, 3, 5, 0, 4);
-        Setup.cardIn(x, 3, 5, 1, 3);
-        x.setBroken(0, true);
-        x.merge(1);
-        CHECK.equal("refused ones stay so", Cardgate.REFUSED, x.state(0));
-        CHECK.equal("one that stays names it", Cardgate.QUEUED, x.state(1));
-        CHECK.equal("no other named it", Cardgate.OPEN, x.state(2));
-        CHECK.equal("both that named it fell", Cardgate.OPEN, x.state(4));
-        CHECK.equal("the queue", "[1 3]", Snapshot.queue(x));
-    }
-
-    private static void leavingByTakingOut() {
-        Cardgate x = Setup.withChanges(1, 1, 1, 1, 1);
-        Setup.cardIn(x, 3, 5, 0, 1, 2, 4);
-        Setup.cardIn(x, 3, 5, 0, 4);
-        Setup.cardIn(x, 3, 5, 1, 3);
-        x.merge(1);
-        x.takeOut(0);
-        CHECK.equal("taken out", Cardgate.OPEN, x.state(0));
-        CHECK.equal("one that stays names it", Cardgate.QUEUED, x.state(1));
-        CHECK.equal("no other named it", Cardgate.OPEN, x.state(2));
-        CHECK.equal("both that named it fell", Cardgate.OPEN, x.state(4));
-        CHECK.equal("the queue", "[1 3]", Snapshot.queue(x));
+    private static void leavingByFalling() {
+        for (boolean isRefused : new boolean[] {true, false}) {
+            Cardgate x = Setup.withChanges(1, 1, 1, 1, 1);
+            Setup.cardIn(x, 3, 5, 0, 1, 2, 4);
+            Setup.cardIn(x, 3, 5, 0, 4);
+            Setup.cardIn(x, 3, 5, 1, 3);
+            x.setBroken(0, isRefused);
+            x.merge(1);
+            if (!isRefused) {
+                x.takeOut(0);
+            }
+            CHECK.equal("what they fell for", isRefused ? Cardgate.REFUSED : Cardgate.OPEN, x.state(0));
+            CHECK.equal("one that stays names it", Cardgate.QUEUED, x.state(1));
+            CHECK.equal("no other named it", Cardgate.OPEN, x.state(2));
+            CHECK.equal("both that named it fell", Cardgate.OPEN, x.state(4));
+            CHECK.equal("the queue", "[1 3]", Snapshot.queue(x));
+        }
     }
 
     private static void leavingToDone() {
