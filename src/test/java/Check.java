@@ -26,6 +26,11 @@ final class Check {
         begin("Promise " + number + ": " + text);
     }
 
+    /** Begins the test of what stands elsewhere, in LANGUAGE.md or README.md. */
+    void rule(String text) {
+        begin(text);
+    }
+
     private void begin(String name) {
         sentences++;
         sentence = name;

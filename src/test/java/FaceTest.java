@@ -43,6 +43,7 @@ public final class FaceTest {
 
     public static void main(String[] args) {
         Check check = new Check("FaceTest");
+        check.rule("The public face, and nothing else that is open");
         check.equal("modifiers", Modifier.PUBLIC | Modifier.FINAL, Cardgate.class.getModifiers());
         TreeSet<String> due = new TreeSet<>(java.util.List.of(METHODS));
         TreeSet<String> got = new TreeSet<>();
